@@ -664,6 +664,7 @@ final class PromiseTest {
         }
         promise19Refusals();
         promise19OtherDigests();
+        promise19OtherNumbers();
     }
 
     private static void promise19Refusals() {
@@ -708,6 +709,25 @@ final class PromiseTest {
         }
     }
 
+    /** A proof that has more than it must have, or less, though what else is needed would be right. */
+    private static void promise19OtherNumbers() {
+        Pair p = new Pair("promise 19, proofs of other numbers");
+        p.due(1, "leaf", 0, 2);
+        p.due(0, "root", 0);
+        // Without a proof nothing stands beside the leaf, as it must be in a tree of one.
+        p.due(1, "check", 0, 1, 0, 2);
+        p.due(1, "leaf", 1, 2);
+        p.due(2, "leaf", 1, 3);
+        p.due(1, "root", 1);
+        p.due(0, "check", 1, 2, 0, 2);
+        p.due(1, "prove", 1, 0);
+        p.due(1, "check", 1, 2, 0, 2);
+        p.due(0, "check", 0, 1, 0, 2);
+        p.due(0, "prove", 0, 0);
+        p.due(1, "check", 0, 1, 0, 2);
+        p.due(0, "check", 1, 2, 0, 2);
+    }
+
     private static void promise20Keep() {
         Pair p = new Pair("promise 20");
         p.feedMany(41, 1);
@@ -735,6 +755,11 @@ final class PromiseTest {
         p.due(1, "about", 0);
         p.call("about", 4);
         p.due(40, "about", 2);
+        Pair q = new Pair("promise 20, rows of one byte");
+        for (int i = 0; i < 40; i++) {
+            q.due(1, "feed", 1, i);
+            q.due(i, "keep");
+        }
     }
 
     private static void promise21Find() {
