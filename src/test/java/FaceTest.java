@@ -33,33 +33,33 @@ final class FaceTest {
         inside();
         room();
         source();
-        Pair.close();
+        Report.close();
     }
 
     private static void face() throws IllegalAccessException {
         Class<?> c = DigestTrees.class;
-        Pair.expect(Modifier.isPublic(c.getModifiers()) && Modifier.isFinal(c.getModifiers()), "the class is public and final");
+        Report.expect(Modifier.isPublic(c.getModifiers()) && Modifier.isFinal(c.getModifiers()), "the class is public and final");
         Set<String> found = new TreeSet<>();
         for (Method method : c.getDeclaredMethods()) {
             if (!Modifier.isPrivate(method.getModifiers())) {
                 found.add(written(method));
-                Pair.expect(Modifier.isPublic(method.getModifiers()) && !Modifier.isStatic(method.getModifiers()), method + " is public");
+                Report.expect(Modifier.isPublic(method.getModifiers()) && !Modifier.isStatic(method.getModifiers()), method + " is public");
             }
         }
-        Pair.expect(found.equals(new TreeSet<>(FACE)), "the face is " + found);
+        Report.expect(found.equals(new TreeSet<>(FACE)), "the face is " + found);
         Constructor<?>[] constructors = c.getDeclaredConstructors();
-        Pair.expect(constructors.length == 1 && constructors[0].getParameterCount() == 0
+        Report.expect(constructors.length == 1 && constructors[0].getParameterCount() == 0
                 && Modifier.isPublic(constructors[0].getModifiers()), "one public constructor without parameters");
         StringBuilder constants = new StringBuilder();
         for (Field field : c.getDeclaredFields()) {
             boolean isConstant = Modifier.isStatic(field.getModifiers()) && Modifier.isFinal(field.getModifiers());
             if (!Modifier.isPrivate(field.getModifiers())) {
-                Pair.expect(isConstant && Modifier.isPublic(field.getModifiers()), field + " is a public constant");
+                Report.expect(isConstant && Modifier.isPublic(field.getModifiers()), field + " is a public constant");
                 constants.append(field.getName()).append('=').append(field.getInt(null)).append(' ');
             }
-            Pair.expect(isConstant || !Modifier.isStatic(field.getModifiers()), field + " is no changing static state");
+            Report.expect(isConstant || !Modifier.isStatic(field.getModifiers()), field + " is no changing static state");
         }
-        Pair.expect(constants.toString().equals("NONE=-1 UNKNOWN=-101 OUTSIDE=-102 FULL=-103 STATE=-104 "), "constants: " + constants);
+        Report.expect(constants.toString().equals("NONE=-1 UNKNOWN=-101 OUTSIDE=-102 FULL=-103 STATE=-104 "), "constants: " + constants);
     }
 
     private static String written(Method method) {
@@ -80,17 +80,17 @@ final class FaceTest {
             faceNames.add(method.substring(method.indexOf(' ') + 1, method.indexOf('(')));
         }
         Class<?>[] nested = DigestTrees.class.getDeclaredClasses();
-        Pair.expect(nested.length < 12, "at most some twelve classes");
+        Report.expect(nested.length < 12, "at most some twelve classes");
         for (Class<?> c : nested) {
-            Pair.expect(Modifier.isStatic(c.getModifiers()) && !Modifier.isPublic(c.getModifiers())
+            Report.expect(Modifier.isStatic(c.getModifiers()) && !Modifier.isPublic(c.getModifiers())
                     && !Modifier.isProtected(c.getModifiers()), c + " is static and not public");
             for (Method method : c.getDeclaredMethods()) {
-                Pair.expect(!faceNames.contains(method.getName()), method + " bears a public method's name");
+                Report.expect(!faceNames.contains(method.getName()), method + " bears a public method's name");
             }
         }
         for (Method method : DigestTrees.class.getDeclaredMethods()) {
             boolean bears = Modifier.isPrivate(method.getModifiers()) && faceNames.contains(method.getName());
-            Pair.expect(!bears, method + " bears a public method's name");
+            Report.expect(!bears, method + " bears a public method's name");
         }
     }
 
@@ -123,29 +123,29 @@ final class FaceTest {
             }
         }
         System.out.println("an object takes " + seen.size() + " objects and arrays, " + elements + " fields and elements");
-        Pair.expect((long) seen.size() * OBJECTS < ROOM_OBJECTS, "too many objects: " + seen.size());
-        Pair.expect(elements * OBJECTS < ROOM_ELEMENTS, "too many elements: " + elements);
+        Report.expect((long) seen.size() * OBJECTS < ROOM_OBJECTS, "too many objects: " + seen.size());
+        Report.expect(elements * OBJECTS < ROOM_ELEMENTS, "too many elements: " + elements);
     }
 
     private static void source() {
-        List<String> lines = Pair.lines();
+        List<String> lines = Subject.lines();
         String code = String.join("\n", lines).replaceAll("(?s)/\\*.*?\\*/", "").replaceAll("//[^\n]*", "");
         for (String word : List.of("catch", "try", "finally", "synchronized", "assert", "->", "::", "package ", "Random",
                 "static {", "currentTimeMillis", "nanoTime", "getMessage", "protected ")) {
-            Pair.expect(!code.contains(word), "the source holds " + word);
+            Report.expect(!code.contains(word), "the source holds " + word);
         }
         for (String line : lines) {
-            Pair.expect(!line.startsWith("import ") || line.equals("import java.util.Arrays;"), "the source has " + line);
+            Report.expect(!line.startsWith("import ") || line.equals("import java.util.Arrays;"), "the source has " + line);
         }
         Matcher thrown = Pattern.compile("throw new (\\w+)\\((\"[^\"]*\")?\\)").matcher(code);
         int throwsFound = 0;
         while (thrown.find()) {
             throwsFound++;
-            Pair.expect(thrown.group(1).equals("ArrayIndexOutOfBoundsException")
+            Report.expect(thrown.group(1).equals("ArrayIndexOutOfBoundsException")
                     || thrown.group(1).equals("NullPointerException"), "throws " + thrown.group(1));
         }
-        Pair.expect(throwsFound == 6, "six throw statements, behind a test each: " + throwsFound);
-        Pair.expect(code.split("throw ", -1).length == throwsFound + 1, "every throw is of a new exception with a written text");
+        Report.expect(throwsFound == 6, "six throw statements, behind a test each: " + throwsFound);
+        Report.expect(code.split("throw ", -1).length == throwsFound + 1, "every throw is of a new exception with a written text");
     }
 
     private FaceTest() { }

@@ -54,6 +54,10 @@ final class Model {
         return rows.size();
     }
 
+    String answer(Call call) {
+        return answer(call.name(), call.args());
+    }
+
     String answer(String call, long... a) {
         int x = a.length > 0 ? (int) a[0] : 0;
         int y = a.length > 1 ? (int) a[1] : 0;
@@ -310,7 +314,7 @@ final class Model {
         return holds ? "1" : "0";
     }
 
-    private static int spot(byte[] row) {
+    static int spot(byte[] row) {
         return wide(row)[31] & 15;
     }
 

@@ -31,7 +31,7 @@ final class PromiseTest {
         promise22Row();
         promise23About();
         promise24Clear();
-        Pair.close();
+        Report.close();
     }
 
     private static void beginning(Pair p) {

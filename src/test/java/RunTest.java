@@ -32,7 +32,7 @@ final class RunTest {
         for (int run = 0; run < RUNS; run++) {
             new RunTest(run).go();
         }
-        Pair.close();
+        Report.close();
     }
 
     private void go() {
