@@ -100,6 +100,8 @@ final class Behind {
             add("alter", 0, 5, 0);
             add("prove", t, 1);
             add("alter", 0, 5, 0);
+            add("change", t, 0, 6);
+            add("change", t, model.leaves(t).size() - 1, 6);
             add("drop", t);
         }
         for (int w = 0; w < 3; w++) {

@@ -114,7 +114,12 @@ final class Edge extends Pair {
         }
         due(2, "feed", 2, meeting(EMPTY_SPOT + 1, 1)[0]);
         due(4, "keep");
-        due(2, "feed", 2, meeting[2]);
+        findFourth();
+    }
+
+    /** Compares all four furnished rows of one spot. */
+    void findFourth() {
+        due(2, "feed", 2, meeting(EMPTY_SPOT, 3)[2]);
         due(3, "find");
         due(4, "about", 4);
     }
@@ -158,9 +163,7 @@ final class Edge extends Pair {
             due(3, "feed", 3, 0x700000 + row);
             due(row, "keep");
         }
-        due(2, "feed", 2, meeting(EMPTY_SPOT, 3)[2]);
-        due(3, "find");
-        due(4, "about", 4);
+        findFourth();
     }
 
     /** Fills stream 0, which is open and has nothing yet; takes the tape. */

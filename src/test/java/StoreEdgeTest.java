@@ -166,6 +166,7 @@ final class StoreEdgeTest {
         Edge e = Edge.furnished(title);
         e.fillTape(40);
         e.due(5, "keep");
+        e.findFourth();
         int[] sizes = {0, 2, 2, 2, 2, 40};
         for (int row = 0; row < sizes.length; row++) {
             for (int i : Edge.wrong(0, sizes[row] - 1)) {

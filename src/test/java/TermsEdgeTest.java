@@ -404,28 +404,41 @@ final class TermsEdgeTest {
         e.due(2, "feed", 2, meeting[4]);
         e.due(NONE, "find");
         e.due(4, "about", 4);
-        rowsThatBeginAlike(title);
-    }
-
-    /** Rows of one spot that differ in length alone, or in the last byte alone, are two. */
-    private static void rowsThatBeginAlike(String title) {
-        Edge e = new Edge(title + ", rows that begin alike");
         byte[] row = {9, 9};
         byte[] longer = meetingIt(row, 3);
         byte[] other = meetingIt(longer, 3);
-        byte[][] rows = {row, longer, other};
-        for (int i = 0; i < 3; i++) {
+        byte[] zero = meetingItsZero();
+        byte[] zeroMore = Arrays.copyOf(zero, 3);
+        rowsThatBeginAlike(title + ", the shorter one first", row, longer, other);
+        rowsThatBeginAlike(title + ", the longer one first", other, longer, row);
+        rowsThatBeginAlike(title + ", a 0 more", zero, zeroMore);
+        rowsThatBeginAlike(title + ", a 0 less", zeroMore, zero);
+    }
+
+    /** Rows of one spot that differ in length alone, or in the last byte alone, are not one. */
+    private static void rowsThatBeginAlike(String title, byte[]... rows) {
+        Edge e = new Edge(title);
+        for (int i = 0; i < rows.length; i++) {
             e.feedAll(rows[i]);
             e.due(NONE, "find");
             e.due(i, "about", 4);
             e.feedAll(rows[i]);
             e.due(i, "keep");
         }
-        for (int i = 2; i >= 0; i--) {
+        for (int i = rows.length - 1; i >= 0; i--) {
             e.feedAll(rows[i]);
             e.due(i, "find");
             e.due(i + 1, "about", 4);
         }
+    }
+
+    /** A row that has the spot of itself with a 0 behind. */
+    private static byte[] meetingItsZero() {
+        byte[] row = {1, 0};
+        while (Model.spot(row) != Model.spot(Arrays.copyOf(row, 3))) {
+            row[1]++;
+        }
+        return row;
     }
 
     /** Another row of so many bytes, of the same spot, that differs from this one in its last byte alone. */
