@@ -2,11 +2,17 @@ import java.io.IOException;
 import java.nio.file.Files;
 import java.nio.file.Path;
 import java.util.LinkedHashMap;
+import java.util.List;
 import java.util.Map;
 
 /** The document's parts by their headings, white space folded. */
 final class Document {
     private static final Map<String, String> PARTS = parts();
+
+    /** In their order, without the title. */
+    static List<String> headings() {
+        return PARTS.keySet().stream().filter(heading -> !heading.isEmpty()).toList();
+    }
 
     static String part(String heading) {
         return PARTS.getOrDefault(heading, "");

@@ -54,12 +54,27 @@ final class Edge extends Pair {
         }
     }
 
+    /** Calls, and asks all that can be asked: what the call should change is changed then, and nothing else. */
+    void dueAll(long want, String name, long... args) {
+        List<Call> before = List.copyOf(taken);
+        Call call = new Call(name, args);
+        due(want, name, args);
+        List<Call> after = new ArrayList<>(before);
+        after.add(call);
+        holdAll(after, before, call);
+    }
+
     /** Clears, and asks all that a new object answers. */
     void dueClear(long want) {
         List<Call> before = List.copyOf(taken);
         due(want, "clear");
-        for (Behind each : Behind.all(List.of(), room(before), goodCheck())) {
-            each.hold(title, before, new Call("clear"));
+        holdAll(List.of(), before, new Call("clear"));
+    }
+
+    /** A new object after a run and one call more answers as is due after that other run. */
+    private void holdAll(List<Call> asAfter, List<Call> run, Call last) {
+        for (Behind each : Behind.all(asAfter, room(run), goodCheck())) {
+            each.hold(title, run, last);
         }
     }
 

@@ -4,11 +4,14 @@ import java.lang.reflect.Field;
 import java.lang.reflect.Method;
 import java.lang.reflect.Modifier;
 import java.util.ArrayDeque;
+import java.util.ArrayList;
 import java.util.Arrays;
 import java.util.Collections;
 import java.util.Deque;
 import java.util.IdentityHashMap;
+import java.util.LinkedHashMap;
 import java.util.List;
+import java.util.Map;
 import java.util.Set;
 import java.util.TreeSet;
 import java.util.regex.Matcher;
@@ -16,50 +19,123 @@ import java.util.regex.Pattern;
 
 /** The class's face as the document writes it, the room that an object takes, and what a look at the source can tell. */
 final class FaceTest {
-    private static final Set<String> FACE = Set.of(
-        "int feed(int, long)", "int key()", "int digest(int)", "int open(int, int)", "int more(int)", "int end(int)",
-        "int told(int, int)", "long read(int, int, int) throws ArrayIndexOutOfBoundsException",
-        "long plan(int, int) throws ArrayIndexOutOfBoundsException", "int same(int, int)",
-        "int table(int) throws ArrayIndexOutOfBoundsException", "int leaf(int, int)", "int change(int, int, int)",
-        "int root(int)", "int drop(int)", "int prove(int, int)", "int alter(int, int, int)",
-        "int check(int, int, int, int)", "int keep()", "int find()",
-        "byte row(int, int) throws NullPointerException ArrayIndexOutOfBoundsException", "int about(int)", "int clear()");
+    private static final List<String> FACE = declared();
+    private static final Pattern PUBLIC = Pattern.compile("^    (public .*?)( \\{|;)$");
+
+    private static final Pattern METHOD =
+        Pattern.compile("( {4}| {8})(?=\\S)(?!for|if|while|do|switch|\\}).*\\) (throws .*)?\\{");
+
+    // What the class may take from the library, and the one static function of its own that it calls by its class.
+    private static final Set<String> CALLED = Set.of("System.arraycopy", "Arrays.fill", "Integer.rotateRight", "Proof.due");
 
     // The room of one run: even an object for each of 512 calls must fit into it.
     private static final int ROOM_OBJECTS = 600_000, ROOM_ELEMENTS = 7_300_000, OBJECTS = 512;
 
     public static void main(String[] args) throws IllegalAccessException {
-        face();
         inside();
+        limits();
         room();
         source();
-        Report.close();
+        Sentences.run(FaceTest.class);
     }
 
-    private static void face() throws IllegalAccessException {
+    /** What the document's face declares in the class, as it is written there. */
+    private static List<String> declared() {
+        String face = Document.part("The public face");
+        String body = face.substring(face.indexOf('{') + 1, face.lastIndexOf('}'));
+        return Arrays.stream(body.split(";")).map(String::strip).filter(line -> !line.isEmpty()).toList();
+    }
+
+    private static String nameOf(String declaration) {
+        return declaration.replaceFirst("\\(.*", "").replaceFirst(".* ", "");
+    }
+
+    /** The names of the methods that the document declares. */
+    private static Set<String> faceNames() {
+        Set<String> names = new TreeSet<>();
+        for (String line : FACE) {
+            if (line.contains("(") && !line.equals("public DigestTrees()")) {
+                names.add(nameOf(line));
+            }
+        }
+        return names;
+    }
+
+    @Says(part = "The public face", words = "public final class DigestTrees {")
+    static void thepublicface_as_it_is_written(String title) {
+        List<String> written = new ArrayList<>();
+        int publicWords = 0;
+        for (String line : Subject.lines()) {
+            Matcher matcher = PUBLIC.matcher(line);
+            if (matcher.find()) {
+                written.add(matcher.group(1));
+            }
+            publicWords += line.split("\\bpublic\\b", -1).length - 1;
+        }
+        Report.expect(written.equals(FACE), title + ": the class declares " + written + ", the document " + FACE);
+        Report.expect(publicWords == FACE.size() + 1, title + ": something else is public");
+        Report.expect(Subject.lines().contains("public final class DigestTrees {"), title + ": the class's own line");
+    }
+
+    @Says(part = "The public face", words = "public DigestTrees()")
+    static void thepublicface_no_member_beside_these(String title) {
         Class<?> c = DigestTrees.class;
-        Report.expect(Modifier.isPublic(c.getModifiers()) && Modifier.isFinal(c.getModifiers()), "the class is public and final");
+        Report.expect(c.getModifiers() == (Modifier.PUBLIC | Modifier.FINAL), title + ": the class is public and final");
         Set<String> found = new TreeSet<>();
         for (Method method : c.getDeclaredMethods()) {
             if (!Modifier.isPrivate(method.getModifiers())) {
                 found.add(written(method));
-                Report.expect(Modifier.isPublic(method.getModifiers()) && !Modifier.isStatic(method.getModifiers()), method + " is public");
             }
         }
-        Report.expect(found.equals(new TreeSet<>(FACE)), "the face is " + found);
+        Set<String> due = new TreeSet<>(FACE.subList(2, FACE.size()).stream().map(FaceTest::withoutNames).toList());
+        Report.expect(found.equals(due), title + ": the methods are " + found + ", due are " + due);
         Constructor<?>[] constructors = c.getDeclaredConstructors();
-        Report.expect(constructors.length == 1 && constructors[0].getParameterCount() == 0
-                && Modifier.isPublic(constructors[0].getModifiers()), "one public constructor without parameters");
+        Report.expect(constructors.length == 1 && constructors[0].toString().equals("public DigestTrees()"),
+            title + ": the constructors are " + Arrays.toString(constructors));
+        Report.expect(c.getSuperclass() == Object.class && c.getInterfaces().length == 0, title + ": it stands alone");
+    }
+
+    @Says(part = "The public face", words = "public static final int NONE = -1, UNKNOWN = -101, OUTSIDE = -102, FULL = -103, STATE = -104")
+    static void thepublicface_constants(String title) throws IllegalAccessException {
         StringBuilder constants = new StringBuilder();
-        for (Field field : c.getDeclaredFields()) {
-            boolean isConstant = Modifier.isStatic(field.getModifiers()) && Modifier.isFinal(field.getModifiers());
-            if (!Modifier.isPrivate(field.getModifiers())) {
-                Report.expect(isConstant && Modifier.isPublic(field.getModifiers()), field + " is a public constant");
-                constants.append(field.getName()).append('=').append(field.getInt(null)).append(' ');
+        for (Field field : DigestTrees.class.getDeclaredFields()) {
+            int modifiers = field.getModifiers();
+            if (!Modifier.isPrivate(modifiers)) {
+                Report.expect(modifiers == (Modifier.PUBLIC | Modifier.STATIC | Modifier.FINAL), title + ": " + field);
+                constants.append(constants.isEmpty() ? "" : ", ").append(field.getName()).append(" = ").append(field.getInt(null));
             }
-            Report.expect(isConstant || !Modifier.isStatic(field.getModifiers()), field + " is no changing static state");
+            Report.expect(Modifier.isFinal(modifiers) || !Modifier.isStatic(modifiers), title + ": " + field + " may change");
         }
-        Report.expect(constants.toString().equals("NONE=-1 UNKNOWN=-101 OUTSIDE=-102 FULL=-103 STATE=-104 "), "constants: " + constants);
+        Report.expect(FACE.get(0).equals("public static final int " + constants), title + ": " + constants);
+    }
+
+    @Says(part = "Terms", words = "Ahead of the calls `digest`, `open`, `more`, `end`, `told`, `read`, `plan`, `same`, `table` the "
+        + "interface says: ---- digests, streams. Ahead of the calls `leaf`, `change`, `root`, `drop`, `prove`, `alter`, `check` the "
+        + "interface says: ---- trees. Ahead of the calls `keep`, `find`, `row`, `about`, `clear` the interface says: ---- the store")
+    static void terms_what_the_interface_says(String title) {
+        Map<String, List<String>> written = new LinkedHashMap<>();
+        String mark = "";
+        for (String line : Subject.lines()) {
+            Matcher matcher = PUBLIC.matcher(line);
+            if (line.startsWith("    // ----")) {
+                mark = line.substring(7);
+            } else if (matcher.find() && !mark.isEmpty()) {
+                written.computeIfAbsent(mark, key -> new ArrayList<>()).add("`" + nameOf(matcher.group(1)) + "`");
+            }
+        }
+        Matcher said = Pattern.compile("Ahead of the calls ([^.]*) the interface says: (---- [^.]*)\\.").matcher(Document.part("Terms"));
+        int marks = 0;
+        while (said.find()) {
+            marks++;
+            String names = String.join(", ", written.getOrDefault(said.group(2), List.of()));
+            Report.expect(names.equals(said.group(1)), title + ": behind " + said.group(2) + " stand " + names);
+        }
+        Report.expect(marks == 3 && written.size() == 3, title + ": three marks, not " + written.keySet());
+    }
+
+    /** A declaration as written() says it: without public, without the parameters' names. */
+    private static String withoutNames(String declaration) {
+        return declaration.replaceFirst("public ", "").replaceAll("(int|long) \\w+([,)])", "$1$2").replace("n, A", "n A");
     }
 
     private static String written(Method method) {
@@ -75,10 +151,7 @@ final class FaceTest {
     }
 
     private static void inside() {
-        Set<String> faceNames = new TreeSet<>();
-        for (String method : FACE) {
-            faceNames.add(method.substring(method.indexOf(' ') + 1, method.indexOf('(')));
-        }
+        Set<String> faceNames = faceNames();
         Class<?>[] nested = DigestTrees.class.getDeclaredClasses();
         Report.expect(nested.length < 12, "at most some twelve classes");
         for (Class<?> c : nested) {
@@ -91,6 +164,27 @@ final class FaceTest {
         for (Method method : DigestTrees.class.getDeclaredMethods()) {
             boolean bears = Modifier.isPrivate(method.getModifiers()) && faceNames.contains(method.getName());
             Report.expect(!bears, method + " bears a public method's name");
+        }
+    }
+
+    /** Rule 11: parameters, fields, lines. */
+    private static void limits() {
+        List<Class<?>> classes = new ArrayList<>(List.of(DigestTrees.class.getDeclaredClasses()));
+        classes.add(DigestTrees.class);
+        for (Class<?> c : classes) {
+            long fields = Arrays.stream(c.getDeclaredFields()).filter(f -> !Modifier.isStatic(f.getModifiers())).count();
+            Report.expect(fields <= 20, c + " has " + fields + " fields");
+            for (Method method : c.getDeclaredMethods()) {
+                Report.expect(method.getParameterCount() <= 7, method + " has too many parameters");
+            }
+        }
+        List<String> lines = Subject.lines();
+        for (int i = 0; i < lines.size(); i++) {
+            Matcher begins = METHOD.matcher(lines.get(i));
+            if (begins.matches()) {
+                int ends = i + lines.subList(i, lines.size()).indexOf(begins.group(1) + "}");
+                Report.expect(ends > i && ends - i < 60, "the method at line " + (i + 1) + " is long");
+            }
         }
     }
 
@@ -136,6 +230,10 @@ final class FaceTest {
         }
         for (String line : lines) {
             Report.expect(!line.startsWith("import ") || line.equals("import java.util.Arrays;"), "the source has " + line);
+        }
+        Matcher called = Pattern.compile("\\b[A-Z]\\w*\\.[a-z]\\w*(?=\\()").matcher(code);
+        while (called.find()) {
+            Report.expect(CALLED.contains(called.group()), "the source calls " + called.group());
         }
         Matcher thrown = Pattern.compile("throw new (\\w+)\\((\"[^\"]*\")?\\)").matcher(code);
         int throwsFound = 0;

@@ -1,5 +1,4 @@
 import java.io.ByteArrayOutputStream;
-import java.math.BigInteger;
 import java.nio.ByteBuffer;
 import java.security.GeneralSecurityException;
 import java.security.MessageDigest;
@@ -15,7 +14,6 @@ final class Model {
     static final String NULL = "throws.NullPointerException";
 
     private static final String NONE = "-1", UNKNOWN = "-101", OUTSIDE = "-102", FULL = "-103", STATE = "-104";
-    private static final int[] TABLE = cubeRoots();
 
     record Digest(int sort, byte[] bytes, int blocks, byte[] lastBlock) { }
 
@@ -74,7 +72,7 @@ final class Model {
             case "read": return read(x, y, z);
             case "plan": return plan(x, y);
             case "same": return same(x, y);
-            case "table": return x < 0 || x > 63 ? BOUNDS : text(TABLE[x]);
+            case "table": return x < 0 || x > 63 ? BOUNDS : text(Rules.K[x]);
             case "leaf": return leaf(x, y);
             case "change": return change(x, y, z);
             case "root": return root(x);
@@ -142,14 +140,14 @@ final class Model {
 
     private String shelve(int sort, byte[] secret, byte[] message) {
         if (sort == 2) {
-            byte[] inner = join(masked(secret, 54), message);
-            byte[] outer = join(masked(secret, 92), wide(inner));
-            int blocks = padded(inner).length / 64 + padded(outer).length / 64
-                    + (secret.length > 64 ? padded(secret).length / 64 : 0);
+            byte[] inner = join(Rules.locked(secret, 54), message);
+            byte[] outer = join(Rules.locked(secret, 92), wide(inner));
+            int blocks = Rules.padded(inner).length / 64 + Rules.padded(outer).length / 64
+                    + (secret.length > 64 ? Rules.padded(secret).length / 64 : 0);
             digests.add(new Digest(2, hmac(secret, message), blocks, lastBlock(outer)));
         } else {
             byte[] bytes = sort == 0 ? wide(message) : library("SHA-224", message);
-            digests.add(new Digest(sort, bytes, padded(message).length / 64, lastBlock(message)));
+            digests.add(new Digest(sort, bytes, Rules.padded(message).length / 64, lastBlock(message)));
         }
         return text(digests.size() - 1);
     }
@@ -178,27 +176,7 @@ final class Model {
     private String plan(int digest, int t) {
         if (!known(digest)) return UNKNOWN;
         if (t < 0 || t > 63) return BOUNDS;
-        return text(word(ByteBuffer.wrap(digests.get(digest).lastBlock), t, new Integer[64]));
-    }
-
-    /** W(t) by its recursive rule. */
-    private static int word(ByteBuffer block, int t, Integer[] done) {
-        if (done[t] == null) {
-            if (t < 16) {
-                done[t] = block.getInt(4 * t);
-            } else {
-                int p = word(block, t - 2, done);
-                int q = word(block, t - 15, done);
-                int s1 = turn(p, 17) ^ turn(p, 19) ^ (p >>> 10);
-                int s0 = turn(q, 7) ^ turn(q, 18) ^ (q >>> 3);
-                done[t] = s1 + word(block, t - 7, done) + s0 + word(block, t - 16, done);
-            }
-        }
-        return done[t];
-    }
-
-    private static int turn(int x, int n) {
-        return (x >>> n) | (x << (32 - n));
+        return text(Rules.words(digests.get(digest).lastBlock)[t]);
     }
 
     private String same(int a, int b) {
@@ -417,46 +395,8 @@ final class Model {
         }
     }
 
-    private static byte[] masked(byte[] secret, int mask) {
-        byte[] lock = Arrays.copyOf(secret.length > 64 ? wide(secret) : secret, 64);
-        for (int i = 0; i < 64; i++) {
-            lock[i] ^= (byte) mask;
-        }
-        return lock;
-    }
-
-    private static byte[] padded(byte[] message) {
-        int size = message.length + 9;
-        while (size % 64 != 0) {
-            size++;
-        }
-        byte[] all = Arrays.copyOf(message, size);
-        all[message.length] = (byte) 128;
-        ByteBuffer.wrap(all).putLong(size - 8, 8L * message.length);
-        return all;
-    }
-
     private static byte[] lastBlock(byte[] message) {
-        byte[] all = padded(message);
+        byte[] all = Rules.padded(message);
         return Arrays.copyOfRange(all, all.length - 64, all.length);
-    }
-
-    /** The first 32 bits behind the point of the cube roots of the first 64 primes. */
-    private static int[] cubeRoots() {
-        int[] k = new int[64];
-        BigInteger prime = BigInteger.TWO;
-        for (int i = 0; i < 64; i++) {
-            BigInteger scaled = prime.shiftLeft(96);
-            BigInteger low = BigInteger.ZERO;
-            for (int bit = 36; bit >= 0; bit--) {
-                BigInteger next = low.setBit(bit);
-                if (next.pow(3).compareTo(scaled) <= 0) {
-                    low = next;
-                }
-            }
-            k[i] = low.intValue();
-            prime = prime.nextProbablePrime();
-        }
-        return k;
     }
 }

@@ -1,3 +1,5 @@
+import java.nio.ByteBuffer;
+
 /** An object of DigestTrees and its model, called alike; tells every answer that is not the due one. */
 class Pair {
     final Model model = new Model();
@@ -49,6 +51,23 @@ class Pair {
         }
         call("plan", digest, 15);
         call("plan", digest, 63);
+    }
+
+    /** That a digest has these bytes, and no more. */
+    final void dueBytes(byte[] want, int digest) {
+        ByteBuffer bytes = ByteBuffer.wrap(want);
+        due(want.length, "told", digest, 1);
+        for (int i = 0; i + 8 < want.length; i += 8) {
+            due(bytes.getLong(i), "read", digest, 4, i);
+        }
+        due(bytes.getLong(want.length - 8), "read", digest, 4, want.length - 8);
+    }
+
+    /** That what is k-th in the proof has these bytes. */
+    final void dueBeside(byte[] want, int k) {
+        for (int i = 0; i < want.length; i++) {
+            due(want[i] & 255, "alter", k, i, 0);
+        }
     }
 
     final void feedAll(byte... bytes) {

@@ -2,7 +2,7 @@ import java.util.Random;
 
 /** Long runs of chosen calls, the same every time, each answer compared with the model's. */
 final class RunTest {
-    private static final int RUNS = 600, CALLS = 500;
+    private static final int RUNS = 600, CALLS = Subject.CALLS_MOST;
     private static final String[] ALL = {"feed", "key", "digest", "open", "more", "end", "told", "read", "plan", "same",
         "table", "leaf", "change", "root", "drop", "prove", "alter", "check", "keep", "find", "row", "about", "clear"};
 

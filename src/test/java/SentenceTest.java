@@ -2,11 +2,14 @@ import java.util.ArrayList;
 import java.util.List;
 import java.util.regex.Matcher;
 import java.util.regex.Pattern;
+import java.util.stream.Stream;
 
-/** Whether the edge tests' words stand in the document, and whether each boundary that it names has a test. */
+/** Whether the tests' words stand in the document, and whether each word of the document and each boundary has a test. */
 final class SentenceTest {
-    private static final List<Class<?>> CLASSES =
+    private static final List<Class<?>> EDGES =
         List.of(TermsEdgeTest.class, DigestEdgeTest.class, TreeEdgeTest.class, StoreEdgeTest.class);
+    private static final List<Class<?>> OTHERS =
+        List.of(WholeTest.class, FaceTest.class, DigestTermsTest.class, TreeTermsTest.class, ChangeTest.class);
     private static final int PROMISES = 24;
 
     // What a promise names as a boundary: its refusals, its exceptions, its numbers from .. to.
@@ -20,17 +23,43 @@ final class SentenceTest {
         "THE TAPE has up to 200 bytes", "of several the first one that the call tells",
         "They change nothing; nor does what throws");
 
+    // What only parts the text.
+    private static final Pattern MARKS = Pattern.compile("==== 1 DIGESTS|==== [23]|```text");
+
     private final List<Sentences.Test> tests = new ArrayList<>();
 
+    private SentenceTest(List<Class<?>> classes) {
+        classes.forEach(c -> tests.addAll(Sentences.of(c)));
+    }
+
     public static void main(String[] args) {
-        SentenceTest all = new SentenceTest();
-        CLASSES.forEach(c -> all.tests.addAll(Sentences.of(c)));
+        SentenceTest all = new SentenceTest(Stream.concat(EDGES.stream(), OTHERS.stream()).toList());
         all.wordsStandInTheDocument();
-        TERMS.forEach(words -> all.hasTest("Terms", Document.part("Terms").indexOf(words), words));
-        for (int number = 1; number <= PROMISES; number++) {
-            all.everyBoundaryHasTest(number);
-        }
+        // FaceTest takes the face from the document itself, so none of its words can be left out there.
+        Document.headings().stream().filter(part -> !part.equals("The public face")).forEach(all::everyWordHasTest);
+        new SentenceTest(EDGES).everyBoundaryHasTest();
         Report.close();
+    }
+
+    private void everyBoundaryHasTest() {
+        TERMS.forEach(words -> hasTest("Terms", Document.part("Terms").indexOf(words), words));
+        for (int number = 1; number <= PROMISES; number++) {
+            everyBoundaryHasTest(number);
+        }
+    }
+
+    /** What stands in no test's words is told. */
+    private void everyWordHasTest(String part) {
+        StringBuilder left = new StringBuilder(textOf(part));
+        MARKS.matcher(left.toString()).results().forEach(mark -> blank(left, mark.start(), mark.end()));
+        tests.stream().filter(test -> test.part().equals(part) && at(test) >= 0)
+            .forEach(test -> blank(left, at(test), at(test) + test.words().length()));
+        Matcher untested = Pattern.compile("\\w+").matcher(left);
+        Report.expect(!untested.find(), part + " has words without a test: " + left.toString().replaceAll(" +", " "));
+    }
+
+    private static void blank(StringBuilder text, int from, int to) {
+        text.replace(from, to, " ".repeat(to - from));
     }
 
     private void wordsStandInTheDocument() {
@@ -63,6 +92,4 @@ final class SentenceTest {
                 && at(test) <= start && at(test) + test.words().length() >= start + words.length());
         Report.expect(has, part + " has no test of its own for \"" + words + "\" at " + start);
     }
-
-    private SentenceTest() { }
 }
