@@ -436,6 +436,12 @@ final class StoreEdgeTest {
         e.due(2, "leaf", 0, 0);
         e.due(0, "root", 0);
         e.due(0, "check", 0, 2, 0, 0);
+        // A tree of one leaf, where nothing has been proved: it answers what a new object does.
+        DigestTrees fresh = new DigestTrees();
+        Report.expect(fresh.leaf(1, 0) == 1 && fresh.root(1) == 0, title + ": a leaf and a root of a new object");
+        e.due(1, "leaf", 1, 0);
+        e.due(1, "root", 1);
+        e.due(fresh.check(0, 1, 0, 0), "check", 1, 1, 0, 0);
     }
 
     @Says(part = "Promise 24", words = "All is as at the beginning")
